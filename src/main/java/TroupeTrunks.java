@@ -7,6 +7,7 @@ public final class TroupeTrunks {
 
     private static final int MOST_TOWNS = 5;
     private static final int MOST_TRUNKS = 5;
+    private static final int TRUNK_SETS = 1 << MOST_TRUNKS;
     private static final int MOST_THINGS = 10;
     private static final int MOST_PLAYS = 4;
     private static final int MOST_NEEDS = 4;
@@ -508,6 +509,9 @@ public final class TroupeTrunks {
             troupeTold = false;
             Arrays.fill(train, NONE);
             Arrays.fill(shame, NONE);
+            for (int one = 0; one < SORTS; one++) {
+                put(shame, one * SORTS + one, 0);
+            }
         }
 
         void takeFrom(Tale other) {
@@ -542,7 +546,7 @@ public final class TroupeTrunks {
 
         /** At what SHAME a THING of one SORT stands for another one; NONE where it may not. */
         int shameOf(int one, int other) {
-            return one == other ? 0 : at(shame, one * SORTS + other);
+            return at(shame, one * SORTS + other);
         }
 
         int thingsOf(int trunkSet) {
@@ -637,33 +641,23 @@ public final class TroupeTrunks {
             }
             start = next;
             int sign = byteAt(next);
+            value = 0;
             if (next >= length) {
                 token = END;
             } else if (isLetter(sign)) {
-                stepWord();
+                token = WORD;
+                while (next < length && isLetter(byteAt(next))) {
+                    next++;
+                }
             } else if (isDigit(sign)) {
-                stepNumber();
+                token = NUMBER;
+                while (next < length && isDigit(byteAt(next))) {
+                    // Digits beyond the most are a FAULT whatever they say, and may not make it overflow.
+                    value = next - start < MOST_DIGITS ? value * 10 + byteAt(next) - '0' : value;
+                    next++;
+                }
             } else {
                 token = sign == ';' ? STOP : STRANGE;
-                next++;
-            }
-        }
-
-        private void stepWord() {
-            token = WORD;
-            while (next < length && isLetter(byteAt(next))) {
-                next++;
-            }
-        }
-
-        private void stepNumber() {
-            token = NUMBER;
-            value = 0;
-            while (next < length && isDigit(byteAt(next))) {
-                // Digits beyond the most are a FAULT whatever they say, and may not make it overflow.
-                if (next - start < MOST_DIGITS) {
-                    value = value * 10 + byteAt(next) - '0';
-                }
                 next++;
             }
         }
@@ -702,13 +696,11 @@ public final class TroupeTrunks {
             return number;
         }
 
-        /** Takes the NUMBER of a TOWN or TRUNK, of which so many are told ahead. */
-        private int takeTold(int many) {
-            int number = takeNumber(0, MOST_NUMBER);
+        /** Of the TOWN or TRUNK that was taken last: whether it is one of so many that are told ahead. */
+        private void checkTold(int number, int many) {
             if (number >= many) {
                 fail(NOT_TOLD, taken);
             }
-            return number;
         }
 
         /** Takes a LINE's first word, of whose like there are so many already. */
@@ -786,8 +778,10 @@ public final class TroupeTrunks {
 
         private void readTrain() {
             step();
-            int from = takeTold(draft.towns);
-            int to = takeTold(draft.towns);
+            int from = takeNumber(0, MOST_NUMBER);
+            checkTold(from, draft.towns);
+            int to = takeNumber(0, MOST_NUMBER);
+            checkTold(to, draft.towns);
             if (from == to || draft.trainDays(from, to) != NONE) {
                 fail(TOLD_TWICE, taken);
             }
@@ -799,7 +793,8 @@ public final class TroupeTrunks {
 
         private void readTrunk() {
             takeHead(draft.trunks, MOST_TRUNKS);
-            int town = takeTold(draft.towns);
+            int town = takeNumber(0, MOST_NUMBER);
+            checkTold(town, draft.towns);
             if (endsWell()) {
                 put(draft.home, draft.trunks, town);
                 draft.trunks++;
@@ -809,7 +804,8 @@ public final class TroupeTrunks {
         private void readThing() {
             takeHead(draft.things, MOST_THINGS);
             int sort = takeNumber(0, SORTS - 1);
-            int trunk = takeTold(draft.trunks);
+            int trunk = takeNumber(0, MOST_NUMBER);
+            checkTold(trunk, draft.trunks);
             if (endsWell()) {
                 put(draft.sort, draft.things, sort);
                 put(draft.holder, draft.things, trunk);
@@ -839,7 +835,8 @@ public final class TroupeTrunks {
             step();
             int one = takeNumber(0, SORTS - 1);
             int other = takeNumber(0, SORTS - 1);
-            if (one == other || draft.shameOf(one, other) != NONE) {
+            if (draft.shameOf(one, other) != NONE) {
+                // A SORT stands for itself already.
                 fail(TOLD_TWICE, taken);
             }
             int shame = takeNumber(0, 99);
@@ -972,7 +969,6 @@ public final class TroupeTrunks {
     /** THE PRICE of PLAYS, and by what their NEEDS are filled. */
     private static final class Prices {
         private static final int UNKNOWN = -2;
-        private static final int TRUNK_SETS = 1 << MOST_TRUNKS;
         private static final int NEED_SETS = 1 << MOST_NEEDS;
 
         private final Tale tale;
@@ -980,6 +976,7 @@ public final class TroupeTrunks {
         private final int[] known = new int[MOST_PLAYS * MOST_TOWNS * TRUNK_SETS];
         /** The least SHAME at which each set of NEEDS can be filled by THINGS looked at so far. */
         private final int[] least = new int[NEED_SETS];
+        /** Of the THING looked at: its SHAME for each NEED. */
         private final int[] shames = new int[MOST_NEEDS];
 
         Prices(Tale tale) {
@@ -995,7 +992,7 @@ public final class TroupeTrunks {
             int slot = (play * MOST_TOWNS + town) * TRUNK_SETS + trunkSet;
             int price = at(known, slot);
             if (price == UNKNOWN) {
-                price = byThings(play, town, tale.thingsOf(trunkSet), NONE);
+                price = leastPrice(play, town, 0, tale.thingsOf(trunkSet), NONE, at(tale.lends, town));
                 put(known, slot, price);
             }
             return price;
@@ -1003,20 +1000,11 @@ public final class TroupeTrunks {
 
         /** With one THING more of a SORT, or NONE. */
         int byThings(int play, int town, int things, int more) {
-            useThings(play, 0, things);
-            if (more != NONE) {
-                useSort(play, 0, more);
-            }
-            return withLent(at(tale.needs, play), at(tale.lends, town), at(tale.cost, town));
+            return leastPrice(play, town, 0, things, more, at(tale.lends, town));
         }
 
-        private int ofRest(int play, int town, int from, int things, int lends) {
-            useThings(play, from, things);
-            return withLent(at(tale.needs, play) - from, lends, at(tale.cost, town));
-        }
-
-        /** Fills least[] for the NEEDS of a PLAY from one on. */
-        private void useThings(int play, int from, int things) {
+        /** Of the NEEDS from one on, while the TOWN still LENDS so many. */
+        private int leastPrice(int play, int town, int from, int things, int more, int lends) {
             Arrays.fill(least, NONE);
             put(least, 0, 0);
             for (int thing = 0; thing < tale.things; thing++) {
@@ -1024,15 +1012,28 @@ public final class TroupeTrunks {
                     useSort(play, from, at(tale.sort, thing));
                 }
             }
+            if (more != NONE) {
+                useSort(play, from, more);
+            }
+            return withLent(at(tale.needs, play) - from, lends, at(tale.cost, town));
         }
 
         private void useSort(int play, int from, int sort) {
             int needs = at(tale.needs, play) - from;
+            boolean useful = false;
             for (int need = 0; need < needs; need++) {
-                put(shames, need, tale.shameOf(sort, tale.needOf(play, from + need)));
+                int shame = tale.shameOf(sort, tale.needOf(play, from + need));
+                put(shames, need, shame);
+                useful = useful || shame != NONE;
             }
+            if (useful) {
+                fillBy(needs);
+            }
+        }
+
+        private void fillBy(int needs) {
             // Downwards, so that no set is filled by the same THING twice.
-            for (int set = NEED_SETS - 1; set >= 0; set--) {
+            for (int set = lowBits(needs); set >= 0; set--) {
                 int before = at(least, set);
                 for (int need = 0; need < needs && before != NONE; need++) {
                     int shame = at(shames, need);
@@ -1046,10 +1047,10 @@ public final class TroupeTrunks {
 
         private int withLent(int needs, int lends, int cost) {
             int best = NONE;
-            for (int set = 0; set < NEED_SETS; set++) {
+            for (int set = 0; set <= lowBits(needs); set++) {
                 int lent = needs - Integer.bitCount(set);
                 int shame = at(least, set);
-                if (shame != NONE && lent >= 0 && lent <= lends && isLess(shame + lent * cost, best)) {
+                if (shame != NONE && lent <= lends && isLess(shame + lent * cost, best)) {
                     best = shame + lent * cost;
                 }
             }
@@ -1059,7 +1060,7 @@ public final class TroupeTrunks {
         /** By what the i-th NEED is filled: each NEED up to it takes the first that keeps the PRICE least. */
         int filler(int play, int town, int things, int i) {
             int lends = at(tale.lends, town);
-            int rest = ofRest(play, town, 0, things, lends);
+            int rest = leastPrice(play, town, 0, things, NONE, lends);
             if (rest == NONE) {
                 return NONE;
             }
@@ -1083,7 +1084,7 @@ public final class TroupeTrunks {
             for (int thing = 0; thing < tale.things; thing++) {
                 int shame = tale.shameOf(at(tale.sort, thing), tale.needOf(play, need));
                 if (has(things, thing) && shame != NONE) {
-                    int rest = ofRest(play, town, need + 1, things & ~(1 << thing), lends);
+                    int rest = leastPrice(play, town, need + 1, things & ~(1 << thing), NONE, lends);
                     if (rest != NONE && shame + rest == price) {
                         return thing;
                     }
@@ -1227,13 +1228,24 @@ public final class TroupeTrunks {
     private static final class Planner {
         private static final int NIGHT_SETS = 1 << MOST_NIGHTS;
         private static final int NIGHT_BITS = 8;
+        /** A set of NIGHTS with eight bits for each NIGHT, so that one int tells which TRUNKS are there on which. */
+        private static final int[] SPREAD = {
+            0x0, 0x1, 0x100, 0x101, 0x10000, 0x10001, 0x10100, 0x10101,
+            0x1000000, 0x1000001, 0x1000100, 0x1000101, 0x1010000, 0x1010001, 0x1010100, 0x1010101
+        };
+
+        private static final int NEVER = 0;
+        private static final int CAN_BE = 1;
+        private static final int CAN_BE_NO_MORE = 2;
 
         private final Tale tale;
         private final Ways ways;
         private final Prices prices;
         private final Standing now;
-        /** By TRUNK and set of NIGHTS: whether it can be there (1), and on no NIGHT more (2). */
+        /** By TRUNK and set of NIGHTS: whether it can be there on all of them, and on no NIGHT more. */
         private final int[] fits = new int[MOST_TRUNKS * NIGHT_SETS];
+        /** PRICES by NIGHT and set of TRUNKS, of those that can be there. */
+        private final int[] costs = new int[MOST_NIGHTS * TRUNK_SETS];
         private final int[] plan = new int[MOST_TRUNKS];
         private boolean planned = false;
         private int spareTrunk = NONE;
@@ -1268,6 +1280,7 @@ public final class TroupeTrunks {
 
         int plan() {
             findFits();
+            findCosts();
             int least = leastFrom(0, 0, NONE);
             if (least == NONE) {
                 return NONE;
@@ -1284,6 +1297,7 @@ public final class TroupeTrunks {
 
         void findSpared() {
             findFits();
+            findCosts();
             spareTrunk = NONE;
             sparePrice = NONE;
             for (int trunk = 0; trunk < tale.trunks; trunk++) {
@@ -1297,17 +1311,40 @@ public final class TroupeTrunks {
 
         private void findFits() {
             for (int trunk = 0; trunk < tale.trunks; trunk++) {
+                // Downwards, as sets with a NIGHT more must be known ahead.
                 for (int set = NIGHT_SETS - 1; set >= 0; set--) {
-                    int fit = canBeThere(trunk, set) ? 1 : 0;
-                    put(fits, trunk * NIGHT_SETS + set, fit == 1 && !fitsWithMore(trunk, set) ? 2 : fit);
+                    int fit = NEVER;
+                    if (canBeThere(trunk, set)) {
+                        fit = fitsWithMore(trunk, set) ? CAN_BE : CAN_BE_NO_MORE;
+                    }
+                    put(fits, trunk * NIGHT_SETS + set, fit);
                 }
             }
+        }
+
+        private void findCosts() {
+            for (int night = 0; night < now.nights; night++) {
+                int able = 0;
+                for (int trunk = 0; trunk < tale.trunks; trunk++) {
+                    able |= fitOf(trunk, 1 << night) == NEVER ? 0 : 1 << trunk;
+                }
+                for (int set = 0; set < TRUNK_SETS; set++) {
+                    if ((set & ~able) == 0) {
+                        int price = prices.byTrunks(at(now.nightPlay, night), at(now.nightTown, night), set);
+                        put(costs, night * TRUNK_SETS + set, price);
+                    }
+                }
+            }
+        }
+
+        private int fitOf(int trunk, int set) {
+            return at(fits, trunk * NIGHT_SETS + set);
         }
 
         private boolean fitsWithMore(int trunk, int set) {
             for (int night = 0; night < MOST_NIGHTS; night++) {
                 int more = set | 1 << night;
-                if (more != set && at(fits, trunk * NIGHT_SETS + more) > 0) {
+                if (more != set && fitOf(trunk, more) != NEVER) {
                     return true;
                 }
             }
@@ -1343,7 +1380,7 @@ public final class TroupeTrunks {
             }
             int least = NONE;
             for (int set = 0; set < NIGHT_SETS; set++) {
-                if (at(fits, trunk * NIGHT_SETS + set) == 2) {
+                if (fitOf(trunk, set) == CAN_BE_NO_MORE) {
                     int price = leastFrom(trunk + 1, aboard | spread(set, trunk), without);
                     if (isLess(price, least)) {
                         least = price;
@@ -1355,7 +1392,7 @@ public final class TroupeTrunks {
 
         private int firstSet(int trunk, int aboard, int least) {
             for (int set = 0; set < NIGHT_SETS; set++) {
-                if (at(fits, trunk * NIGHT_SETS + set) > 0
+                if (fitOf(trunk, set) != NEVER
                         && leastFrom(trunk + 1, aboard | spread(set, trunk), NONE) == least) {
                     return set;
                 }
@@ -1363,22 +1400,15 @@ public final class TroupeTrunks {
             return 0;
         }
 
-        /** A TRUNK's bit in each NIGHT of a set; eight bits a NIGHT. */
         private static int spread(int set, int trunk) {
-            int bits = 0;
-            for (int night = 0; night < MOST_NIGHTS; night++) {
-                if (has(set, night)) {
-                    bits |= 1 << night * NIGHT_BITS + trunk;
-                }
-            }
-            return bits;
+            return at(SPREAD, set) << trunk;
         }
 
         private int priceOf(int aboard) {
             int together = 0;
             for (int night = 0; night < now.nights; night++) {
-                int trunkSet = aboard >>> night * NIGHT_BITS & lowBits(MOST_TRUNKS);
-                int price = prices.byTrunks(at(now.nightPlay, night), at(now.nightTown, night), trunkSet);
+                int set = aboard >>> night * NIGHT_BITS & TRUNK_SETS - 1;
+                int price = at(costs, night * TRUNK_SETS + set);
                 if (price == NONE) {
                     return NONE;
                 }
