@@ -13,6 +13,7 @@ public final class TroupeTrunks {
     private static final int MOST_NEEDS = 4;
     private static final int MOST_NIGHTS = 4;
     private static final int MOST_DAYS = 99;
+    private static final int TROUPE_WITHOUT = 11;
     private static final int SORTS = 20;
     private static final int THOUSAND = 1000;
     private static final int LENT = 99;
@@ -477,24 +478,23 @@ public final class TroupeTrunks {
 
     /** What a text tells. */
     private static final class Tale {
-        int towns = 0;
+        int towns;
         final int[] kind = new int[MOST_TOWNS];
         final int[] chance = new int[MOST_TOWNS];
         final int[] lends = new int[MOST_TOWNS];
         final int[] cost = new int[MOST_TOWNS];
         final int[] train = new int[MOST_TOWNS * MOST_TOWNS];
-        int trunks = 0;
+        int trunks;
         final int[] home = new int[MOST_TRUNKS];
-        int things = 0;
+        int things;
         final int[] sort = new int[MOST_THINGS];
         final int[] holder = new int[MOST_THINGS];
-        int plays = 0;
+        int plays;
         final int[] cast = new int[MOST_PLAYS];
         final int[] needs = new int[MOST_PLAYS];
         final int[] need = new int[MOST_PLAYS * MOST_NEEDS];
         final int[] shame = new int[SORTS * SORTS];
-        int troupe = 11;
-        boolean troupeTold = false;
+        int troupe;
 
         Tale() {
             clear();
@@ -505,8 +505,7 @@ public final class TroupeTrunks {
             trunks = 0;
             things = 0;
             plays = 0;
-            troupe = 11;
-            troupeTold = false;
+            troupe = TROUPE_WITHOUT;
             Arrays.fill(train, NONE);
             Arrays.fill(shame, NONE);
             for (int one = 0; one < SORTS; one++) {
@@ -520,7 +519,6 @@ public final class TroupeTrunks {
             things = other.things;
             plays = other.plays;
             troupe = other.troupe;
-            troupeTold = other.troupeTold;
             copy(other.kind, kind);
             copy(other.chance, chance);
             copy(other.lends, lends);
@@ -594,6 +592,7 @@ public final class TroupeTrunks {
         private int value = 0;
         /** Where the NUMBER began that was taken last: some FAULTS are found behind it. */
         private int taken = 0;
+        private boolean troupeTold = false;
         private int fault = 0;
         private int place = NONE;
 
@@ -611,6 +610,7 @@ public final class TroupeTrunks {
             next = 0;
             fault = 0;
             place = NONE;
+            troupeTold = false;
             draft.clear();
             step();
             for (int line = 0; line <= length && token != END && fault == 0; line++) {
@@ -846,14 +846,14 @@ public final class TroupeTrunks {
         }
 
         private void readTroupe() {
-            if (draft.troupeTold) {
+            if (troupeTold) {
                 fail(SECOND_TROUPE, start);
             }
             step();
             int troupe = takeNumber(1, 40);
             if (endsWell()) {
                 draft.troupe = troupe;
-                draft.troupeTold = true;
+                troupeTold = true;
             }
         }
     }

@@ -262,6 +262,16 @@ public final class PromisesTest {
         tell("");
         count(0, 0);
         count(4, 11);
+        // what the tape has behind the first n bytes is no part of the text
+        feedText("troupe 49");
+        due("told(8) of 'troupe 49'", 1, () -> x.told(8));
+        due("fault()", 8, () -> x.fault());
+        feedText("troupe 4;x");
+        due("told(9) of 'troupe 4;x'", 0, () -> x.told(9));
+        count(4, 4);
+        feedText("town slowly");
+        due("told(9) of 'town slowly'", 1, () -> x.told(9));
+        due("fault()", 9, () -> x.fault());
     }
 
     private static void faultsOfTokens() {
@@ -927,6 +937,16 @@ public final class PromisesTest {
         x.seed(1);
         restore(true);
         count(8, 0);
+        start("promise 26, nights whole");
+        tell("town careful lends 2 3;town careful lends 2 5;play 1 1;play 1 1 1;");
+        night(7, 1, 1, 1);
+        x.image();
+        x.forget();
+        night(2, 0, 0, 1);
+        tour(3);
+        restore(true);
+        tour(10);
+        night(6, 0, 0, NONE);
         start("promise 26, what tour is kept stays");
         tell("town careful;town careful;train 0 1 1;trunk 0;thing 1 0;play 1 1;");
         x.image();
