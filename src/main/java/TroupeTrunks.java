@@ -40,7 +40,7 @@ public final class TroupeTrunks {
     private final Ways ways = new Ways(tale);
     private final Prices prices = new Prices(tale);
     private final Standing now = new Standing();
-    private final Standing kept = new Standing();
+    private final Standing picture = new Standing();
     private boolean imaged = false;
     private final Past past = new Past();
     private final Planner planner = new Planner(tale, ways, prices, now);
@@ -290,7 +290,8 @@ public final class TroupeTrunks {
         long share = ways.lostShare(i, clerks);
         long whole = ways.lostWhole(clerks);
         long divisor = commonDivisor(whole, share);
-        if (whole == 0 || divisor == 0) {
+        // Both are 0 where nobody can lose it.
+        if (divisor == 0) {
             return what == 0 ? 0 : 1;
         }
         return what == 0 ? share / divisor : whole / divisor;
@@ -395,7 +396,7 @@ public final class TroupeTrunks {
     // ---- the image
 
     public void image() {
-        kept.takeFrom(now);
+        picture.takeFrom(now);
         imaged = true;
     }
 
@@ -403,7 +404,7 @@ public final class TroupeTrunks {
         if (!imaged) {
             return false;
         }
-        now.takeFrom(kept);
+        now.takeFrom(picture);
         past.clear();
         return true;
     }
