@@ -1,148 +1,5 @@
-import java.util.Arrays;
-import java.util.NoSuchElementException;
-
 /** For each promise: ordinary inputs, the edges that the document names, wrong inputs, with answers worked out by hand. */
-public final class PromisesTest {
-    private static final int NONE = -1;
-    private static final String MISSING = "throws.NoSuchElementException";
-    private static final String BAD = "throws.IllegalArgumentException";
-
-    private static int wrong = 0;
-    private static int checks = 0;
-    private static String part = "";
-    private static TroupeTrunks x = new TroupeTrunks();
-
-    private interface Call {
-        long answer();
-    }
-
-    private static void due(String call, Object want, Call got) {
-        String answer;
-        try {
-            answer = Long.toString(got.answer());
-        } catch (NoSuchElementException e) {
-            answer = MISSING;
-        } catch (IllegalArgumentException e) {
-            answer = BAD;
-        }
-        checks++;
-        if (!answer.equals(want.toString())) {
-            wrong++;
-            System.out.println(part + ": " + call + " answered " + answer + ", due is " + want);
-        }
-    }
-
-    private static void start(String name) {
-        part = name;
-        x = new TroupeTrunks();
-    }
-
-    private static void feedText(String text) {
-        byte[] bytes = Arrays.copyOf(text.getBytes(java.nio.charset.StandardCharsets.ISO_8859_1), (text.length() + 19) / 20 * 20);
-        for (int at = 0; at < bytes.length; at += 20) {
-            int[] v = new int[5];
-            for (int i = 0; i < 20; i++) {
-                v[i / 4] = v[i / 4] << 8 | bytes[at + i] & 255;
-            }
-            x.feed(v[0], v[1], v[2], v[3], v[4]);
-        }
-    }
-
-    private static void tell(String text) {
-        feedText(text);
-        due("told: " + text, 0, () -> x.told(text.length()));
-    }
-
-    private static void tellFault(String text, int fault, int place) {
-        feedText(text);
-        due("told: " + text, fault, () -> x.told(text.length()));
-        due("fault() of: " + text, place, () -> x.fault());
-    }
-
-    private static void count(int what, int want) {
-        due("count(" + what + ")", want, () -> x.count(what));
-    }
-
-    private static void town(int town, int what, Object want) {
-        due("town(" + town + ", " + what + ")", want, () -> x.town(town, what));
-    }
-
-    private static void trunk(int trunk, int what, Object want) {
-        due("trunk(" + trunk + ", " + what + ")", want, () -> x.trunk(trunk, what));
-    }
-
-    private static void way(int from, int to, Object want) {
-        due("way(" + from + ", " + to + ")", want, () -> x.way(from, to));
-    }
-
-    private static void price(int play, int town, int things, Object want) {
-        due("price(" + play + ", " + town + ", " + things + ")", want, () -> x.price(play, town, things));
-    }
-
-    private static void filled(int play, int town, int i, Object want) {
-        due("filled(" + play + ", " + town + ", " + i + ")", want, () -> x.filled(play, town, i));
-    }
-
-    private static void tonight(int town, Object play, Object price) {
-        due("tonight(" + town + ", 0)", play, () -> x.tonight(town, 0));
-        due("tonight(" + town + ", 1)", price, () -> x.tonight(town, 1));
-    }
-
-    private static void both(int town, int other, Object plays, Object prices) {
-        due("both(" + town + ", " + other + ", 0)", plays, () -> x.both(town, other, 0));
-        due("both(" + town + ", " + other + ", 1)", prices, () -> x.both(town, other, 1));
-    }
-
-    private static void send(int trunk, int to, Object want) {
-        due("send(" + trunk + ", " + to + ")", want, () -> x.send(trunk, to));
-    }
-
-    private static void days(int days, Object want) {
-        due("days(" + days + ")", want, () -> x.days(days));
-    }
-
-    private static void undo(boolean want) {
-        due("undo()", want ? 1 : 0, () -> x.undo() ? 1 : 0);
-    }
-
-    private static void clerk(int from, int to, int i, Object want) {
-        due("clerk(" + from + ", " + to + ", " + i + ")", want, () -> x.clerk(from, to, i));
-    }
-
-    private static void lost(int from, int to, int i, Object upper, Object lower) {
-        due("lost(" + from + ", " + to + ", " + i + ", 0)", upper, () -> x.lost(from, to, i, 0));
-        due("lost(" + from + ", " + to + ", " + i + ", 1)", lower, () -> x.lost(from, to, i, 1));
-    }
-
-    private static void night(int day, int town, int play, Object want) {
-        due("night(" + day + ", " + town + ", " + play + ")", want, () -> x.night(day, town, play));
-    }
-
-    private static void tour(int want) {
-        due("tour()", want, () -> x.tour());
-    }
-
-    private static void rides(Object... want) {
-        for (int trunk = 0; trunk < want.length; trunk++) {
-            int t = trunk;
-            due("rides(" + t + ")", want[t], () -> x.rides(t));
-        }
-    }
-
-    private static void spared(int trunk, int price) {
-        due("spared(0)", trunk, () -> x.spared(0));
-        due("spared(1)", price, () -> x.spared(1));
-    }
-
-    private static void unopened(int play, int town, int a, int b, int c, Object want) {
-        due("unopened(" + play + ", " + town + ", " + a + ", " + b + ", " + c + ")", want,
-                () -> x.unopened(play, town, a, b, c));
-    }
-
-    private static void restore(boolean want) {
-        due("restore()", want ? 1 : 0, () -> x.restore() ? 1 : 0);
-    }
-
+public final class PromisesTest extends Checks {
     public static void main(String[] args) {
         newObject();
         feed();
@@ -165,10 +22,7 @@ public final class PromisesTest {
         sparedTrunks();
         unopenedTrunks();
         images();
-        System.out.println(checks + " answers looked at, " + wrong + " not as due");
-        if (wrong != 0) {
-            System.exit(1);
-        }
+        report();
     }
 
     private static void newObject() {
@@ -176,7 +30,7 @@ public final class PromisesTest {
         for (int what = 0; what <= 12; what++) {
             count(what, what == 4 ? 11 : 0);
         }
-        due("fault()", NONE, () -> x.fault());
+        fault(NONE);
         due("NONE", -1, () -> TroupeTrunks.NONE);
         town(0, 0, MISSING);
         trunk(0, 0, MISSING);
@@ -224,11 +78,11 @@ public final class PromisesTest {
         count(10, 0);
         due("told(29)", 0, () -> x.told(29));
         count(9, 0);
-        x.seed(3);
+        seed(3);
         days(4, 4);
         night(5, 0, 0, 1);
-        x.image();
-        x.forget();
+        image();
+        forget();
         tour(0);
         rides(0);
         night(5, 0, 0, 1);
@@ -246,7 +100,7 @@ public final class PromisesTest {
         due("told(1) of an empty tape", BAD, () -> x.told(1));
         due("fault() stays", 19, () -> x.fault());
         tell("town careful;town careful;trunk 1;");
-        due("fault()", NONE, () -> x.fault());
+        fault(NONE);
         count(0, 2);
         count(3, 0);
         count(5, 0);
@@ -422,7 +276,7 @@ public final class PromisesTest {
         count(6, 1);
         count(7, 2);
         count(8, 0);
-        x.seed(0);
+        seed(0);
         count(8, 1);
         count(9, 0);
         feedText("x");
@@ -654,15 +508,15 @@ public final class PromisesTest {
         start("promises 13 and 14, slips");
         String path = "train 0 1 2;train 1 2 3;trunk 0;";
         tell("town slow 1000;town slow 1000;town careful;" + path);
-        x.seed(1);
+        seed(1);
         send(0, 2, 7);
         trunk(0, 1, 2);
         tell("town slow 1000;town lazy 1000;town careful;" + path);
-        x.seed(1);
+        seed(1);
         send(0, 2, 3);
         trunk(0, 1, 1);
         tell("town lazy 1000;town lazy 1000;town careful;" + path);
-        x.seed(1);
+        seed(1);
         days(4, 4);
         send(0, 2, 4);
         trunk(0, 0, 0);
@@ -670,23 +524,23 @@ public final class PromisesTest {
         count(7, 2);
         // no other train goes from there, so the drunk ones don't slip
         tell("town drunk 1000;town drunk 1000;town careful;" + path);
-        x.seed(1);
+        seed(1);
         send(0, 2, 5);
         trunk(0, 1, 2);
         tell("town slow 1000;town drunk 1000;town careful;town careful;train 1 3 1;train 1 0 9;" + path);
-        x.seed(1);
+        seed(1);
         send(0, 2, 12);
         trunk(0, 1, 0);
         // seed 0 draws 0 first, as 12345 has no bit above the 13th
         int second = (12345 * 1103515245 + 12345 >>> 16 & 0x7fff) % 1000;
         tell("town slow 1;town slow " + second + ";town careful;" + path);
-        x.seed(0);
+        seed(0);
         send(0, 2, 6);
         tell("town careful;town slow " + (second + 1) + ";town careful;" + path);
-        x.seed(0);
+        seed(0);
         send(0, 2, 6);
         tell("town slow 0;town slow " + second + ";town careful;" + path);
-        x.seed(0);
+        seed(0);
         send(0, 2, 5);
     }
 
@@ -694,7 +548,7 @@ public final class PromisesTest {
         start("promise 16");
         tell("town slow 500;town slow 500;train 0 1 1;train 1 0 1;trunk 0;");
         undo(false);
-        x.seed(9);
+        seed(9);
         int[] comes = new int[20];
         for (int i = 0; i < 20; i++) {
             comes[i] = x.send(0, 1 - i % 2);
@@ -716,7 +570,7 @@ public final class PromisesTest {
         start("promise 16, the seed goes back too");
         tell("town careful;town careful;train 0 1 1;trunk 0;");
         days(1, 1);
-        x.seed(5);
+        seed(5);
         send(0, 1, 2);
         undo(true);
         count(8, 1);
@@ -786,7 +640,7 @@ public final class PromisesTest {
         night(0, 0, -1, MISSING);
         count(12, 5);
         count(6, 4);
-        x.forget();
+        forget();
         count(6, 0);
         night(0, 0, 0, 1);
     }
@@ -821,7 +675,7 @@ public final class PromisesTest {
         send(0, 1, 2);
         tour(0);
         rides(5, 10);
-        x.forget();
+        forget();
         night(0, 2, 1, 1);
         night(1, 0, 1, 2);
         // on day 0 in 2 trunk 1 and a lent one; on day 1 in 0 trunk 1 and a lent one
@@ -845,7 +699,7 @@ public final class PromisesTest {
         rides(1, 0, 0);
         spared(1, 0);
         rides(1, 0, 0);
-        x.forget();
+        forget();
         night(1, 1, 1, 1);
         tour(4);
         rides(1, 1, 0);
@@ -855,7 +709,7 @@ public final class PromisesTest {
         // trunk 0 stays, and 2 and 3 stand for 1; without 0 it is 11 and 9, without 1 7 and 9, without 2 4 and 9
         tour(11);
         spared(2, 13);
-        x.forget();
+        forget();
         night(0, 1, 2, 1);
         tour(NONE);
         spared(NONE, NONE);
@@ -898,12 +752,12 @@ public final class PromisesTest {
         String world = "town slow 500;town slow 500;train 0 1 1;train 1 0 1;trunk 0;trunk 0;play 1 1;";
         tell(world);
         restore(false);
-        x.seed(77);
+        seed(77);
         send(1, 1, firstComing(77));
         days(9, 9);
         night(9, 0, 0, 1);
         send(0, 0, NONE);
-        x.image();
+        image();
         int comes = x.send(0, 1);
         days(9, 18);
         night(20, 1, 0, 2);
@@ -927,21 +781,21 @@ public final class PromisesTest {
         restore(true);
         trunk(0, 0, 0);
         days(1, 10);
-        x.image();
+        image();
         days(1, 11);
         restore(true);
         count(5, 10);
         start("promise 26, no seed in the image");
         tell(world);
-        x.image();
-        x.seed(1);
+        image();
+        seed(1);
         restore(true);
         count(8, 0);
         start("promise 26, nights whole");
         tell("town careful lends 2 3;town careful lends 2 5;play 1 1;play 1 1 1;");
         night(7, 1, 1, 1);
-        x.image();
-        x.forget();
+        image();
+        forget();
         night(2, 0, 0, 1);
         tour(3);
         restore(true);
@@ -949,7 +803,7 @@ public final class PromisesTest {
         night(6, 0, 0, NONE);
         start("promise 26, what tour is kept stays");
         tell("town careful;town careful;train 0 1 1;trunk 0;thing 1 0;play 1 1;");
-        x.image();
+        image();
         night(1, 1, 0, 1);
         tour(0);
         restore(true);
