@@ -372,6 +372,13 @@ public final class CallBoundariesTest extends Checks {
             clerk(from, to, NONE, 2);
             clerk(from, to, 1, over);
         }
+        allWays("train 0 1 1;train 1 2 1;train 2 3 1;train 3 4 1;train 4 0 1;");
+        allWays("train 0 4 9;train 4 3 8;train 3 2 7;train 2 1 6;train 1 0 5;");
+        allWays("train 0 1 2;train 1 0 3;train 1 2 4;train 2 1 5;train 2 3 6;train 3 2 7;train 3 4 8;train 4 3 9;");
+        allWays("train 4 0 1;train 3 0 2;train 2 0 3;train 1 0 4;");
+        allWays("train 0 4 1;train 1 4 2;train 2 4 3;train 3 4 4;");
+        allWays("train 1 2 1;train 1 4 1;train 3 4 5;");
+        allWays("train 0 2 1;train 2 0 1;train 2 4 9;train 1 3 1;train 3 1 2;");
         start("of like ones the first as a row of TOWNS");
         tell(TOWN.repeat(5) + "train 0 4 8;train 0 1 2;train 1 2 2;train 2 3 2;train 3 4 2;");
         clerk(0, 4, NONE, 4);
@@ -422,6 +429,38 @@ public final class CallBoundariesTest extends Checks {
         clerk(-1, 0, NONE, MISSING);
         clerk(0, -1, NONE, MISSING);
         unchanged(before);
+    }
+
+    /** DAYS between all TOWNS, each against the least of all rows of TRAINS. */
+    private static void allWays(String trains) {
+        start("A WAY: from each TOWN to each other one, by " + trains);
+        tell(TOWN.repeat(5) + trains);
+        int[][] days = new int[5][5];
+        for (String train : trains.split(";")) {
+            String[] parts = train.split(" ");
+            days[Integer.parseInt(parts[1])][Integer.parseInt(parts[2])] = Integer.parseInt(parts[3]);
+        }
+        for (int from = 0; from < 5; from++) {
+            for (int to = 0; to < 5; to++) {
+                way(from, to, shortest(days, from, to, 1 << from));
+            }
+        }
+    }
+
+    private static int shortest(int[][] days, int from, int to, int been) {
+        if (from == to) {
+            return 0;
+        }
+        int least = NONE;
+        for (int next = 0; next < 5; next++) {
+            if (days[from][next] > 0 && (been & 1 << next) == 0) {
+                int rest = shortest(days, next, to, been | 1 << next);
+                if (rest != NONE && (least == NONE || days[from][next] + rest < least)) {
+                    least = days[from][next] + rest;
+                }
+            }
+        }
+        return least;
     }
 
     private static void sendings() {
@@ -586,6 +625,27 @@ public final class CallBoundariesTest extends Checks {
         seed(1);
         send(0, 1, 3);
         trunk(0, 1, 1);
+        start("(if there is none, he doesn't SLIP): of five TOWNS in a ring, from each of which one TRAIN goes");
+        tell("town drunk 1000;".repeat(5) + "train 0 1 1;train 1 2 1;train 2 3 1;train 3 4 1;train 4 0 1;"
+                + "trunk 0;trunk 1;trunk 2;trunk 3;trunk 4;");
+        seed(1);
+        for (int trunk = 0; trunk < 5; trunk++) {
+            int to = (trunk + 4) % 5;
+            send(trunk, to, 4);
+            trunk(trunk, 1, to);
+            for (int i = 0; i < 4; i++) {
+                lost(trunk, to, i, 0, 1);
+            }
+        }
+        start("of five TOWNS in two rings, from each of which two TRAINS go");
+        tell("town drunk 1000;".repeat(5) + "train 0 1 1;train 1 2 1;train 2 3 1;train 3 4 1;train 4 0 1;"
+                + "train 0 4 9;train 1 0 9;train 2 1 9;train 3 2 9;train 4 3 9;trunk 0;trunk 1;trunk 2;trunk 3;trunk 4;");
+        seed(1);
+        for (int trunk = 0; trunk < 5; trunk++) {
+            lost(trunk, (trunk + 1) % 5, 0, 1, 1);
+            send(trunk, (trunk + 1) % 5, 9);
+            trunk(trunk, 1, (trunk + 4) % 5);
+        }
         start("and there it stays");
         tell(TOWN + "town drunk 1000;" + TOWN.repeat(2)
                 + "train 0 1 2;train 1 2 3;train 2 3 1;train 1 0 4;train 1 3 9;trunk 0;");
@@ -1023,6 +1083,13 @@ public final class CallBoundariesTest extends Checks {
         night(0, 1, 0, 1);
         tour(0);
         rides(0, 1, 0);
+        start("as its WAYS allow: each TRUNK by its own, the first of which can be there on all four NIGHTS");
+        tell(TWO + "trunk 0;trunk 1;thing 1 0;play 1 1;");
+        for (int many = 1; many <= 4; many++) {
+            night(many, 0, 0, many);
+        }
+        tour(0);
+        rides(15, 0);
         start("as its WAYS allow: not where none goes");
         tell(TWO + "train 1 0 1;trunk 0;thing 1 0;play 1 1;");
         night(99, 1, 0, 1);

@@ -432,6 +432,13 @@ public final class TextBoundariesTest extends Checks {
         tellFault(TOWN + TOWN + "train 0 2 1;", 3, 34);
         tellFault(TOWN + TOWN + "train 2 2 1;", 3, 32);
         tellFault("train 0 1 1;", 3, 6);
+        String five = TOWN.repeat(5);
+        tell(five + "train 4 0 1;train 0 4 1;");
+        tellFault(five + "train 5 0 1;", 3, 71);
+        tellFault(five + "train 4 5 1;", 3, 73);
+        tellFault(five + "train 5 5 1;", 3, 71);
+        tellFault(five + "train 9999 0 1;", 3, 71);
+        tellFault(five + "train 0 9999 1;", 3, 73);
         start("3 a TRUNK that isn't told ahead");
         tell(TOWN + "trunk 0;thing 1 0;");
         tellFault(TOWN + "thing 1 0;trunk 0;", 3, 21);
