@@ -11,19 +11,11 @@ import java.util.Collections;
 import java.util.List;
 import java.util.Set;
 import java.util.TreeSet;
+import java.util.regex.Matcher;
+import java.util.regex.Pattern;
 
 /** The class shows the document's face and nothing else, and keeps to those rules of LANGUAGE.md that a look can tell. */
 public final class FaceTest {
-    private static final String[] FACE = {
-        "boolean restore()", "boolean undo()",
-        "int both(int, int, int)", "int clerk(int, int, int)", "int count(int)", "int days(int)", "int fault()",
-        "int feed(int, int, int, int, int)", "int filled(int, int, int)", "int night(int, int, int)",
-        "int price(int, int, int)", "int rides(int)", "int send(int, int)", "int spared(int)", "int told(int)",
-        "int tonight(int, int)", "int tour()", "int town(int, int)", "int trunk(int, int)",
-        "int unopened(int, int, int, int, int)", "int way(int, int)",
-        "long lost(int, int, int, int)", "void forget()", "void image()", "void seed(int)"
-    };
-
     private static final String[] RULED_OUT = {
         "->", "::", "synchronized", "finally", "assert ", "Exact(", "try", "catch", "Random", "currentTimeMillis",
         "nanoTime", "System.out", "getMessage", "hashCode", "equals("
@@ -48,44 +40,76 @@ public final class FaceTest {
         }
     }
 
-    private static String told(Method m) {
-        List<String> parameters = new ArrayList<>();
-        for (Class<?> c : m.getParameterTypes()) {
-            parameters.add(c.getSimpleName());
-        }
-        return m.getReturnType().getSimpleName() + " " + m.getName() + "(" + String.join(", ", parameters) + ")";
+    /** A member as the document writes it, but for the names of its parameters. */
+    private static String written(String result, String name, Class<?>[] parameters, Class<?>[] thrown) {
+        return result + name + "(" + names(parameters) + ")" + (thrown.length == 0 ? "" : " throws " + names(thrown));
     }
 
-    private static void face() {
+    private static String names(Class<?>[] classes) {
+        List<String> names = new ArrayList<>();
+        for (Class<?> c : classes) {
+            names.add(c.getSimpleName());
+        }
+        return String.join(", ", names);
+    }
+
+    /** The members of 'The public face', with what they throw. */
+    private static List<String> faceOfTheDocument() throws IOException {
+        String page = Files.readString(Path.of("../shared/DOC.md"), StandardCharsets.UTF_8);
+        List<String> due = new ArrayList<>();
+        Matcher member = Pattern.compile("(?m)^    public ([^;=]*\\)[^;=]*);$").matcher(page);
+        while (member.find()) {
+            due.add(member.group(1).replaceAll("\\bint \\w+(?=[,)])", "int"));
+        }
+        Collections.sort(due);
+        must(due.size() == 26, "the document's face has a constructor and 25 methods");
+        return due;
+    }
+
+    private static void face() throws IOException {
         Class<?> c = TroupeTrunks.class;
         must(Modifier.isPublic(c.getModifiers()) && Modifier.isFinal(c.getModifiers()), "the class is public and final");
         List<String> shown = new ArrayList<>();
         Set<String> names = new TreeSet<>();
         for (Method m : c.getDeclaredMethods()) {
             if (!Modifier.isPrivate(m.getModifiers())) {
-                must(Modifier.isPublic(m.getModifiers()), m + " is public");
-                shown.add(told(m));
+                must(Modifier.isPublic(m.getModifiers()) && !Modifier.isStatic(m.getModifiers()), m + " is public");
+                shown.add(written(m.getReturnType().getSimpleName() + " ", m.getName(), m.getParameterTypes(),
+                        m.getExceptionTypes()));
                 names.add(m.getName());
             }
         }
+        for (Constructor<?> made : c.getDeclaredConstructors()) {
+            must(Modifier.isPublic(made.getModifiers()), made + " is public");
+            shown.add(written("", c.getSimpleName(), made.getParameterTypes(), made.getExceptionTypes()));
+        }
         Collections.sort(shown);
-        List<String> due = new ArrayList<>(List.of(FACE));
-        Collections.sort(due);
-        must(shown.equals(due), "the methods are " + due + ", not " + shown);
-        for (Method m : c.getDeclaredMethods()) {
+        List<String> due = faceOfTheDocument();
+        must(shown.equals(due), "the members are " + due + ", not " + shown);
+        namesOfTheirOwn(names);
+        constants();
+    }
+
+    private static void namesOfTheirOwn(Set<String> names) {
+        for (Method m : TroupeTrunks.class.getDeclaredMethods()) {
             must(!Modifier.isPrivate(m.getModifiers()) || !names.contains(m.getName()), m + " has a name of its own");
         }
-        for (Class<?> inside : c.getDeclaredClasses()) {
+        for (Class<?> inside : TroupeTrunks.class.getDeclaredClasses()) {
             for (Method m : inside.getDeclaredMethods()) {
                 must(!names.contains(m.getName()), m + " has a name of its own");
             }
         }
-        for (Field f : c.getDeclaredFields()) {
-            must(Modifier.isPrivate(f.getModifiers()) || f.getName().equals("NONE"), f + " is private");
+    }
+
+    private static void constants() {
+        int shown = 0;
+        for (Field f : TroupeTrunks.class.getDeclaredFields()) {
+            if (!Modifier.isPrivate(f.getModifiers())) {
+                shown++;
+                must(f.toString().equals("public static final int TroupeTrunks.NONE"), f + " is NONE");
+            }
         }
-        Constructor<?>[] made = c.getDeclaredConstructors();
-        must(made.length == 1 && made[0].getParameterCount() == 0 && Modifier.isPublic(made[0].getModifiers()),
-                "one public constructor");
+        must(shown == 1 && TroupeTrunks.NONE == -1, "NONE, which is -1, is the one constant shown");
     }
 
     private static void insideClasses() {
@@ -118,5 +142,22 @@ public final class FaceTest {
             must(!line.startsWith("import") || line.equals("import java.util.Arrays;")
                     || line.equals("import java.util.NoSuchElementException;"), "no library but what is listed: " + line);
         }
+        shortMethods(text.split("\n"));
+    }
+
+    private static void shortMethods(String[] lines) {
+        int methods = 0;
+        for (int from = 0; from < lines.length; from++) {
+            if (lines[from].matches(" {4,8}\\S.*\\) (throws .*)?\\{") && !lines[from].trim().matches("(if|for|while) .*")) {
+                String end = lines[from].replaceAll("\\S.*", "}");
+                int to = from;
+                while (to < lines.length && !lines[to].equals(end)) {
+                    to++;
+                }
+                methods++;
+                must(to - from < 60, "some sixty lines: " + lines[from]);
+            }
+        }
+        must(methods > 100, "methods are found in the source");
     }
 }
